@@ -265,6 +265,13 @@ public final class PromiseTest {
         x.correct(4, 2, 14, 10);
         is("1..9 22..22 25..39 42..99999", gapsOf(x, 0, 10));
         is(NONE, x.gap(0, Integer.MAX_VALUE, 0, 10));
+        OwnerRows full = withThings(1);
+        for (int row = 0; row < 120; row++) {
+            full.owner(0, 1, 500 - 2 * row, 500 - 2 * row, 0);
+        }
+        is(263, full.gap(0, 0, 0, 0));
+        is(499, full.gap(0, 118, 1, 0));
+        is(NONE, full.gap(0, 119, 0, 0));
         is(NONE, x.gap(0, 4, 1, 10));
         fails(NO_SUCH, () -> x.gap(2, 0, 0, 0));
         fails(NO_SUCH, () -> x.gap(-1, 0, 0, 0));
@@ -315,6 +322,18 @@ public final class PromiseTest {
         return x;
     }
 
+    /** Ten whole rows and three parts of 999, 997 and 89. */
+    private static OwnerRows withTenAnd(int a, int b, int c) {
+        OwnerRows x = withThings(1);
+        for (int row = 0; row < 13; row++) {
+            x.owner(0, 1, 0, 0, 0);
+        }
+        x.share(10, a, 999);
+        x.share(11, b, 997);
+        x.share(12, c, 89);
+        return x;
+    }
+
     private static void tooLongSums() {
         OwnerRows x = withLongSum();
         is("2992003/996003000", heldOf(x, 0, 50, 0));
@@ -338,6 +357,9 @@ public final class PromiseTest {
         fails(STATE, () -> aboveAlone.held(0, 50, 0, 0));
         fails(STATE, () -> aboveAlone.held(0, 50, 0, 1));
 
+        is("1000000000/88644267", heldOf(withTenAnd(275, 241, 68), 0, 0, 0));
+        fails(STATE, () -> withTenAnd(550, 213, 46).held(0, 0, 0, 1));
+
         OwnerRows lessened = withThings(1);
         for (int row = 0; row < 100; row++) {
             lessened.owner(0, 1, 0, 0, 0);
@@ -349,6 +371,8 @@ public final class PromiseTest {
     private static void promise10() {
         OwnerRows x = withThings(1);
         x.owner(0, 4, 10, 20, 0);
+        x.owner(0, 0, 0, 0, 9);
+        is(NONE, x.asked(0, 0, 9));
         is(0, x.danger(31, 0, 0));
         is(1, x.danger(0, LAST, LAST));
         is(NONE, x.asked(0, 0, 0));
@@ -362,6 +386,7 @@ public final class PromiseTest {
         for (int rule = 3; rule < 10; rule++) {
             is(rule, x.danger(3, 0, 0));
         }
+        is(NONE, x.asked(0, 1, 0));
         fails(STATE, () -> x.danger(3, 0, 0));
         fails(ARGUMENT, () -> x.danger(3, 1, 0));
         fails(NO_SUCH, () -> x.danger(32, 0, 0));
