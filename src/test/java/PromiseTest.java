@@ -1,94 +1,5 @@
-import java.util.NoSuchElementException;
-
 /** Each promise of the document: ordinary inputs, the edges that it names, wrong inputs and their order. */
-public final class PromiseTest {
-    private static final Class<?> NO_SUCH = NoSuchElementException.class;
-    private static final Class<?> ARGUMENT = IllegalArgumentException.class;
-    private static final Class<?> STATE = IllegalStateException.class;
-    private static final int NONE = OwnerRows.NONE;
-    private static final int LAST = 100000;
-
-    private static int promise = 0;
-    private static int checks = 0;
-    private static int wrong = 0;
-
-    private interface Call {
-        Object run();
-    }
-
-    private interface Act {
-        void run();
-    }
-
-    private static void report(String text) {
-        wrong++;
-        StackTraceElement[] trace = new Throwable().getStackTrace();
-        int line = 0;
-        for (StackTraceElement e : trace) {
-            if (e.getMethodName().startsWith("promise")) {
-                line = e.getLineNumber();
-                break;
-            }
-        }
-        System.out.println("promise " + promise + ", line " + line + ": " + text);
-    }
-
-    private static void is(Object want, Object got) {
-        checks++;
-        if (!want.equals(got)) {
-            report("answered " + got + ", due is " + want);
-        }
-    }
-
-    private static void fails(Class<?> want, Call call) {
-        checks++;
-        Object got;
-        try {
-            got = "answered " + call.run();
-        } catch (RuntimeException e) {
-            got = e.getClass();
-        }
-        if (!want.equals(got)) {
-            report(got + ", due is " + want);
-        }
-    }
-
-    private static void failsAct(Class<?> want, Act act) {
-        fails(want, () -> {
-            act.run();
-            return "nothing";
-        });
-    }
-
-    private static OwnerRows withThings(int n) {
-        OwnerRows x = new OwnerRows();
-        for (int i = 0; i < n; i++) {
-            x.thing();
-        }
-        return x;
-    }
-
-    private static String chainOf(OwnerRows x, int thing, int day) {
-        int length = x.chain(thing, day, NONE);
-        StringBuilder text = new StringBuilder();
-        for (int i = 0; i < length; i++) {
-            text.append((char) x.chain(thing, day, i));
-        }
-        return text.toString();
-    }
-
-    private static String gapsOf(OwnerRows x, int thing, int day) {
-        StringBuilder text = new StringBuilder();
-        for (int k = 0; x.gap(thing, k, 0, day) != NONE; k++) {
-            text.append(x.gap(thing, k, 0, day)).append("..").append(x.gap(thing, k, 1, day)).append(' ');
-        }
-        return text.toString().trim();
-    }
-
-    private static String heldOf(OwnerRows x, int thing, int on, int day) {
-        return x.held(thing, on, day, 0) + "/" + x.held(thing, on, day, 1);
-    }
-
+public final class PromiseTest extends Checks {
     private static void promise1() {
         OwnerRows x = new OwnerRows();
         fails(NO_SUCH, () -> x.chain(0, 0, NONE));
@@ -699,12 +610,8 @@ public final class PromiseTest {
         fails(NO_SUCH, () -> empty.chain(0, 0, 0));
     }
 
-    private interface Promise {
-        void check();
-    }
-
     public static void main(String[] args) {
-        Promise[] all = {
+        Act[] all = {
             PromiseTest::promise1, PromiseTest::promise2, PromiseTest::promise3, PromiseTest::promise4,
             PromiseTest::promise5, PromiseTest::promise6, PromiseTest::promise7, PromiseTest::promise8,
             PromiseTest::promise9, PromiseTest::promise10, PromiseTest::promise11, PromiseTest::promise12,
@@ -712,13 +619,9 @@ public final class PromiseTest {
             PromiseTest::promise17, PromiseTest::promise18, PromiseTest::promise19, PromiseTest::promise20,
             PromiseTest::promise21, PromiseTest::promise22, PromiseTest::promise23,
         };
-        for (Promise p : all) {
-            promise++;
-            p.check();
+        for (int i = 0; i < all.length; i++) {
+            part("promise " + (i + 1), all[i]);
         }
-        System.out.println(checks + " checks of " + promise + " promises, " + wrong + " wrong");
-        if (wrong != 0 || promise != 23) {
-            System.exit(1);
-        }
+        end();
     }
 }
